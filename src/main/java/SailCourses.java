@@ -14,7 +14,7 @@ public final class SailCourses {
 
     private static final int SQUARES = 36, HEADINGS = 8, ZONES = 4, SPANS = 4, TAPES = 6;
     private static final int SPAN_MINUTES = 360;
-    private static final int GREATEST_LOSS = 60, LAST_START = 9999, LAST_TOLD = 99999;
+    private static final int GREATEST_LOSS = 60, LATEST_START = 9999, LATEST_TOLD = 99999;
     /** Stands above every minute that a boat can need. */
     private static final int NEVER = 1000000000;
 
@@ -192,7 +192,7 @@ public final class SailCourses {
         if (!below(square, SQUARES) || !below(heading, HEADINGS)) {
             return NONE;
         }
-        if (minute < 0 || minute > LAST_START) {
+        if (minute < 0 || minute > LATEST_START) {
             return BAD;
         }
         return sea.paceBy(Compass.zoneOf(square), Compass.spanOf(minute), heading);
@@ -207,7 +207,7 @@ public final class SailCourses {
         if (!below(heading, HEADINGS) || !below(what, 3)) {
             return NONE;
         }
-        if (minute < 0 || minute > LAST_START) {
+        if (minute < 0 || minute > LATEST_START) {
             return BAD;
         }
         Legs legs = chart.freshLegs();
@@ -299,7 +299,7 @@ public final class SailCourses {
         if (!below(zone, ZONES) || !below(span, SPANS) || !below(square, SQUARES)) {
             return NO;
         }
-        if (minute < 0 || minute > LAST_TOLD || !below(part, 2)) {
+        if (minute < 0 || minute > LATEST_TOLD || !below(part, 2)) {
             return NO;
         }
         surmise.turnWind(sea, zone, span);
@@ -504,7 +504,7 @@ public final class SailCourses {
         if (!below(square, SQUARES) || !below(side, 2)) {
             return NONE;
         }
-        if (minute < 0 || minute > LAST_START) {
+        if (minute < 0 || minute > LATEST_START) {
             return BAD;
         }
         return sea.isLand(square) ? STATE : 0;
@@ -517,7 +517,7 @@ public final class SailCourses {
         if (!below(square, SQUARES)) {
             return NONE;
         }
-        if (minute < 0 || minute > LAST_TOLD) {
+        if (minute < 0 || minute > LATEST_TOLD) {
             return BAD;
         }
         return rows.add(square, minute);
@@ -831,6 +831,7 @@ public final class SailCourses {
         }
 
         void undergo(int what, int n) {
+            version++;
             switch (what) {
                 case CALM:
                     Arrays.fill(force, n * SPANS, (n + 1) * SPANS, 0);
@@ -851,7 +852,6 @@ public final class SailCourses {
                 default:
                     break;
             }
-            version++;
         }
     }
 
@@ -955,7 +955,9 @@ public final class SailCourses {
         private final Sea sea;
         private final Legs legs;
         private final int[] least = new int[SPOTS];
-        private final int[] settled = new int[SPOTS];
+        /** The spots that are reached and not yet left; each comes here once. */
+        private final int[] open = new int[SPOTS];
+        private int openCount = 0;
         /** As the call last answers; looked for only when it is asked for. */
         private final int[] lastLegs = new int[SPOTS];
         /** The headings of the course that was laid, from its end on. */
@@ -979,9 +981,9 @@ public final class SailCourses {
             }
             legs.freshen();
             Arrays.fill(least, NEVER);
-            Arrays.fill(settled, 0);
             Arrays.fill(lastLegs, NOT_SOUGHT);
-            least[startSpot()] = sea.startMinute;
+            openCount = 0;
+            reach(startSpot(), sea.startMinute);
             settleAll();
             version = sea.version;
         }
@@ -990,29 +992,34 @@ public final class SailCourses {
             return 2 * sea.startSquare + sea.startSide;
         }
 
+        private void reach(int spot, int minute) {
+            if (least[spot] == NEVER && openCount < SPOTS) {
+                open[openCount] = spot;
+                openCount++;
+            }
+            least[spot] = minute;
+        }
+
         private void settleAll() {
-            for (int round = 0; round < SPOTS; round++) {
-                int spot = nearestUnsettled();
-                if (spot < 0) {
-                    return;
-                }
-                settled[spot] = 1;
+            for (int round = 0; round < SPOTS && openCount > 0; round++) {
+                int spot = takeNearest();
                 for (int heading = 0; heading < HEADINGS; heading++) {
                     sailOn(spot, heading);
                 }
             }
         }
 
-        private int nearestUnsettled() {
-            int nearest = -1;
-            int first = NEVER;
-            for (int spot = 0; spot < SPOTS; spot++) {
-                if (least[spot] < first && settled[spot] == 0) {
-                    first = least[spot];
-                    nearest = spot;
+        private int takeNearest() {
+            int nearest = 0;
+            for (int nth = 1; nth < openCount; nth++) {
+                if (least[open[nth]] < least[open[nearest]]) {
+                    nearest = nth;
                 }
             }
-            return nearest;
+            int spot = open[nearest];
+            openCount--;
+            open[nearest] = open[openCount];
+            return spot;
         }
 
         private void sailOn(int spot, int heading) {
@@ -1030,7 +1037,10 @@ public final class SailCourses {
                 }
                 int kind = Legs.kindOf(square, heading, departing);
                 int there = 2 * target + legs.sideThen(kind, side);
-                least[there] = Math.min(least[there], legs.arrival(kind, side, departing));
+                int arriving = legs.arrival(kind, side, departing);
+                if (arriving < least[there]) {
+                    reach(there, arriving);
+                }
             }
         }
 

@@ -62,7 +62,7 @@ public final class OracleRuns {
 
     void go() {
       while (calls < CALLS && wrong < 20) {
-        if (dice.below(10) == 0) sayText(); else any();
+        if (dice.below(10) == 0 && calls / 100 % 2 == 0) sayText(); else any();
       }
     }
 
@@ -111,7 +111,10 @@ public final class OracleRuns {
       int way = dice.about(7), part = dice.about(1), minute = dice.about(9999), late = dice.below(3000);
       int told = dice.below(5) == 0 ? dice.about(99999) : late;
       int tape = dice.about(5), place = dice.about(20), other = dice.about(5), at = dice.about(20);
-      switch (dice.below(40)) {
+      // In every other hundred of calls the sea stays mostly as it is, and is asked more.
+      int what = dice.below(40);
+      if (what < 7 && calls / 100 % 2 == 1 && dice.below(8) > 0) what = 10 + dice.below(30);
+      switch (what) {
         case 0: case 1: { int f = dice.about(3);
           same("wind " + zone + " " + span + " " + way + " " + f, real.wind(zone, span, way, f), due.wind(zone, span, way, f)); break; }
         case 2: { int r = dice.about(3);

@@ -499,8 +499,11 @@ public final class PromiseTests {
     x.steer(1);
     x.steer(6);
     x.steer(3);
-    double a = (double) (2 / 6.0f), b = (double) (5 / 6.0f), c = (double) (3 / 6.0f);
+    double a = (double) (2 / 6.0f), b = (double) (5 / 6.0f), b2 = (double) (4 / 6.0f), c = (double) (3 / 6.0f);
     dueReckoned(a * q + b * -1.0 + c * q, a * q + b * 0.0 + c * -q);
+    // 349 and 10 lie in one span, and 10 more in the next.
+    x.start(14, 0, 349);
+    dueReckoned(a * q + b2 * -1.0 + c * q, a * q + b2 * 0.0 + c * -q);
     x.steer(-1);
     x.steer(2);
     x.start(14, 0, 0);
@@ -585,6 +588,9 @@ public final class PromiseTests {
     begin(23);
     due("5 of 8 above", x.odds(0, 0, 6, 155, 0), 5);
     due("5 of 8 below", x.odds(0, 0, 6, 155, 1), 8);
+    due("another zone's wind does not matter", x.odds(3, 0, 6, 155, 0), 1);
+    due("back to that zone", x.odds(0, 0, 6, 155, 0), 5);
+    due("another span's wind does not matter", x.odds(0, 1, 6, 155, 0), 1);
     due("4 of 8 above", x.odds(0, 0, 6, 154, 0), 1);
     due("4 of 8 below", x.odds(0, 0, 6, 154, 1), 2);
     due("2 of 8 above", x.odds(0, 0, 6, 149, 0), 1);
