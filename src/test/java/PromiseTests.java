@@ -196,6 +196,7 @@ public final class PromiseTests {
     due("table by 3", readAll("b300009"), 1);
     due("table by 3", x.speed(3, 4), 9);
     due("one behind the other", readAll("l09;s0000;l09"), 2);
+    due("what was is 0", readAll("w0000;w0012;c000;c012;b100000;b100000"), 6);
     due("twelve", readAll("l10;l10;l10;l10;l10;l10;l10;l10;l10;l10;l10;l10"), 12);
     due("thirteen", readAll("l10;l10;l10;l10;l10;l10;l10;l10;l10;l10;l10;l10;l10"), -10 - 47);
     due("with a fault none is done", readAll("l11;l12;"), -10 - 8);
