@@ -20,9 +20,10 @@ public final class FaceTests {
     "int book(int,int)", "int looked()", "int judge(int,int)", "int image()", "int undo()", "int count(int)",
     "int tape(int,int,int)", "int item(int,int,long)", "long peek(int,int)", "int shift(int,int,int,int,int)"};
   private static final String[] FORBIDDEN = {
-    "try", "catch", "throw", "throws", "finally", "synchronized", "assert", "instanceof", "Object", "Double.", "Float.",
-    "System.out", "System.nano", "System.current", "Thread", "->", "::", "Random", "equals(", "hashCode", "toString",
-    "Exact(", "static {"};
+    "finally", "synchronized", "assert", "Object", "Double.", "Float.", "System.out", "System.nano", "System.current",
+    "System.getenv", "System.exit", "Thread", "::", "Random", "hashCode", "Exact(", "static {", "ArrayIndexOutOfBoundsException",
+    "NullPointerException", "ClassCastException", "NegativeArraySizeException", "ArrayStoreException", "Throwable"};
+  private static final Set<String> IMPORTS = Set.of("Arrays", "ArrayList", "List", "Iterator", "NoSuchElementException");
   private static int wrong = 0;
 
   public static void main(String[] args) throws IOException {
@@ -53,10 +54,11 @@ public final class FaceTests {
   private static Set<String> shown() {
     Set<String> shown = new TreeSet<>();
     for (Field f : SailCourses.class.getDeclaredFields()) {
-      if (!Modifier.isPrivate(f.getModifiers())) shown.add(Modifier.toString(f.getModifiers()) + " " + f.getType() + " " + f.getName());
+      if (!Modifier.isPrivate(f.getModifiers()) && !f.isSynthetic()) shown.add(Modifier.toString(f.getModifiers()) + " " + f.getType() + " " + f.getName());
     }
     for (Method m : SailCourses.class.getDeclaredMethods()) {
-      if (Modifier.isPrivate(m.getModifiers())) continue;
+      check(!m.getName().startsWith("lambda$"), "a lambda: " + m);
+      if (Modifier.isPrivate(m.getModifiers()) || m.isSynthetic()) continue;
       shown.add(Modifier.toString(m.getModifiers()) + " " + m.getReturnType() + " " + m.getName() + types(m.getParameterTypes()));
     }
     for (Constructor<?> c : SailCourses.class.getDeclaredConstructors()) {
@@ -78,6 +80,8 @@ public final class FaceTests {
     check(inside.length <= 11, "more classes than some twelve");
     for (Class<?> c : inside) {
       check(!Modifier.isPublic(c.getModifiers()) && Modifier.isStatic(c.getModifiers()), c + " is public or not static");
+      check(!c.isLocalClass(), c + " is local");
+      for (Method m : c.getDeclaredMethods()) check(!m.getName().startsWith("lambda$"), "a lambda: " + m);
       for (Method m : c.getDeclaredMethods()) check(!names.contains(m.getName()), m + " bears a name of the face");
       int fields = 0;
       for (Field f : c.getDeclaredFields()) {
@@ -97,7 +101,9 @@ public final class FaceTests {
     for (String line : Files.readAllLines(Path.of("src/main/java/SailCourses.java"))) {
       String bare = line.trim();
       if (bare.startsWith("*") || bare.startsWith("/")) continue;
-      check(!bare.startsWith("import ") || bare.equals("import java.util.Arrays;"), "another import: " + bare);
+      boolean allowed = bare.startsWith("import java.util.") && IMPORTS.contains(bare.substring(17, bare.length() - 1));
+      check(!bare.startsWith("import ") || allowed, "another import: " + bare);
+      check(!bare.startsWith("package "), "a package line");
       code.append(bare.replaceAll("//.*", "")).append('\n');
     }
     String text = code.toString();
