@@ -665,10 +665,8 @@ public final class SailCourses {
             return ofMagnitude(value, 52, 1023);
         }
 
+        /** Of 0.0f and more: no pace is below that. */
         static long ofFloat(float value) {
-            if (value < 0.0f) {
-                return ofMagnitude((double) -value, 23, 127) | 1L << 31;
-            }
             return ofMagnitude((double) value, 23, 127);
         }
 

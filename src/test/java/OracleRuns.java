@@ -22,6 +22,7 @@ public final class OracleRuns {
     for (int sea = 0; sea < 12 && wrong < 20; sea++) {
       everyMinute(sea);
     }
+    extremes();
     System.out.println(wrong == 0 ? "oracle: all answers are alike" : "oracle: " + wrong + " answers differ");
     if (wrong != 0) System.exit(1);
   }
@@ -193,6 +194,64 @@ public final class OracleRuns {
         same("item " + tape + " " + i + " " + v, real.item(tape, i, v), due.item(tape, i, v));
       }
       same("judge " + tape, real.judge(tape, 0), due.judge(tape, 0));
+    }
+  }
+
+  private interface Ask { long of(SailCourses real, int[] a); }
+  private interface Due { long of(Oracle due, int[] a); }
+
+  /** Every call by all that can be made of a few numbers, the ends of int among them. */
+  private static void extremes() {
+    int[] few = {Integer.MIN_VALUE, -1, 0, 1, 5, Integer.MAX_VALUE};
+    extremes("wind", few, 4, (x, a) -> x.wind(a[0], a[1], a[2], a[3]), (x, a) -> x.wind(a[0], a[1], a[2], a[3]));
+    extremes("current", few, 3, (x, a) -> x.current(a[0], a[1], a[2]), (x, a) -> x.current(a[0], a[1], a[2]));
+    extremes("table", few, 3, (x, a) -> x.table(a[0], a[1], a[2]), (x, a) -> x.table(a[0], a[1], a[2]));
+    extremes("land", few, 2, (x, a) -> x.land(a[0], a[1] > 0), (x, a) -> x.land(a[0], a[1] > 0));
+    extremes("start", few, 3, (x, a) -> x.start(a[0], a[1], a[2]), (x, a) -> x.start(a[0], a[1], a[2]));
+    extremes("loss", few, 2, (x, a) -> x.loss(a[0], a[1]), (x, a) -> x.loss(a[0], a[1]));
+    extremes("steer", few, 1, (x, a) -> x.steer(a[0]), (x, a) -> x.steer(a[0]));
+    extremes("feed", few, 1, (x, a) -> x.feed(a[0]), (x, a) -> x.feed(a[0]));
+    extremes("of", few, 3, (x, a) -> x.of(a[0], a[1], a[2]), (x, a) -> x.of(a[0], a[1], a[2]));
+    extremes("speed", few, 2, (x, a) -> x.speed(a[0], a[1]), (x, a) -> x.speed(a[0], a[1]));
+    extremes("told", few, 1, (x, a) -> x.told(a[0]), (x, a) -> x.told(a[0]));
+    extremes("pace", few, 3, (x, a) -> x.pace(a[0], a[1], a[2]), (x, a) -> x.pace(a[0], a[1], a[2]));
+    extremes("leg", few, 5, (x, a) -> x.leg(a[0], a[1], a[2], a[3], a[4]), (x, a) -> x.leg(a[0], a[1], a[2], a[3], a[4]));
+    extremes("least", few, 2, (x, a) -> x.least(a[0], a[1]), (x, a) -> x.least(a[0], a[1]));
+    extremes("last", few, 2, (x, a) -> x.last(a[0], a[1]), (x, a) -> x.last(a[0], a[1]));
+    extremes("course", few, 2, (x, a) -> x.course(a[0], a[1]), (x, a) -> x.course(a[0], a[1]));
+    extremes("reckon", few, 2, (x, a) -> x.reckon(a[0], a[1]), (x, a) -> x.reckon(a[0], a[1]));
+    extremes("meanPace", few, 1, (x, a) -> x.meanPace(a[0]), (x, a) -> x.meanPace(a[0]));
+    extremes("see", few, 2, (x, a) -> x.see(a[0], a[1]), (x, a) -> x.see(a[0], a[1]));
+    extremes("fits", few, 3, (x, a) -> x.fits(a[0], a[1], a[2]), (x, a) -> x.fits(a[0], a[1], a[2]));
+    extremes("odds", few, 5, (x, a) -> x.odds(a[0], a[1], a[2], a[3], a[4]), (x, a) -> x.odds(a[0], a[1], a[2], a[3], a[4]));
+    extremes("mean", few, 1, (x, a) -> x.mean(a[0]), (x, a) -> x.mean(a[0]));
+    extremes("event", few, 2, (x, a) -> x.event(a[0], a[1]), (x, a) -> x.event(a[0], a[1]));
+    extremes("after", few, 1, (x, a) -> x.after(a[0]), (x, a) -> x.after(a[0]));
+    extremes("book", few, 2, (x, a) -> x.book(a[0], a[1]), (x, a) -> x.book(a[0], a[1]));
+    extremes("judge", few, 2, (x, a) -> x.judge(a[0], a[1]), (x, a) -> x.judge(a[0], a[1]));
+    extremes("count", few, 1, (x, a) -> x.count(a[0]), (x, a) -> x.count(a[0]));
+    extremes("tape", few, 3, (x, a) -> x.tape(a[0], a[1], a[2]), (x, a) -> x.tape(a[0], a[1], a[2]));
+    extremes("item", few, 3, (x, a) -> x.item(a[0], a[1], a[2]), (x, a) -> x.item(a[0], a[1], a[2]));
+    extremes("peek", few, 2, (x, a) -> x.peek(a[0], a[1]), (x, a) -> x.peek(a[0], a[1]));
+    extremes("shift", few, 5, (x, a) -> x.shift(a[0], a[1], a[2], a[3], a[4]), (x, a) -> x.shift(a[0], a[1], a[2], a[3], a[4]));
+  }
+
+  private static void extremes(String name, int[] few, int arguments, Ask ask, Due due) {
+    SailCourses real = new SailCourses();
+    Oracle oracle = new Oracle();
+    int all = 1;
+    for (int i = 0; i < arguments; i++) all *= few.length;
+    for (int nth = 0; nth < all && wrong < 20; nth++) {
+      if (nth % 500 == 0) {
+        real = new SailCourses();
+        oracle = new Oracle();
+        for (int tape = 0; tape < 2; tape++) if (real.tape(tape, 2, 6) != oracle.tape(tape, 2, 6)) wrong++;
+        if (real.tape(5, 3, 6) != oracle.tape(5, 3, 6)) wrong++;
+      }
+      int[] a = new int[arguments];
+      for (int i = 0, rest = nth; i < arguments; i++, rest /= few.length) a[i] = few[rest % few.length];
+      long got = ask.of(real, a), want = due.of(oracle, a);
+      if (got != want) differ(name + Arrays.toString(a), got, want);
     }
   }
 

@@ -596,7 +596,9 @@ public final class TermsTests {
     sentence("A set-up is read from THE TEXT (bytes, 100 at most)", TermsTests::textOfAHundred);
     sentence("CLAUSES, 1 to 12, with ; between (none behind the twelfth)", TermsTests::oneToTwelve);
     sentence("w ZONE SPAN FROM FORCE; c ZONE TO RATE; b FORCE and 5 digits", TermsTests::signsThatMayFollow);
-    sentence("THE TABLE by that FORCE", TermsTests::clausesOfTheTable);
+    sentence("SQUARE, TACK, GYBE: 1 or 2 digits (SQUARE just 2); minute: 1 to 4", TermsTests::howManyDigits);
+    sentence("The FAULT: the place of the first byte with which none begins so", TermsTests::theFirstFault);
+    sentence("b FORCE and 5 digits (THE TABLE by that FORCE)", TermsTests::clausesOfTheTable);
     sentence("l SQUARE (LAND, or not any more)", TermsTests::clausesOfLand);
     sentence("s SQUARE SIDE minute (START)", TermsTests::clausesOfStart);
     sentence("t TACK , GYBE (refused as a whole, if one is above 60)", TermsTests::clausesOfLosses);
@@ -658,6 +660,34 @@ public final class TermsTests {
         due("FAULT by sign " + (int) sign + " behind " + one[0], fault ? 1 : 0, one[1].indexOf(sign) < 0 ? 1 : 0);
       }
     }
+  }
+
+  private static void howManyDigits() {
+    String digits = "0123456";
+    for (int n = 0; n < 7; n++) {
+      String many = digits.substring(0, n);
+      x = new SailCourses();
+      dueRead("l" + many, n == 2 ? 1 : n < 2 ? -11 - n : -13);
+      dueRead("s02" + many, n < 2 ? -13 - n : n <= 5 ? 1 : -18);
+      dueRead("t" + many + ",1", n == 0 ? -11 : n <= 2 ? 1 : -13);
+      dueRead("t1," + many, n == 0 ? -13 : n <= 2 ? 1 : -15);
+      dueRead("w" + many, n < 4 ? -11 - n : n == 4 ? 1 : -15);
+      dueRead("c" + many, n < 3 ? -11 - n : n == 3 ? 1 : -14);
+      dueRead("b1" + many, n < 5 ? -12 - n : n == 5 ? 1 : -17);
+    }
+  }
+
+  private static void theFirstFault() {
+    dueRead("x", -10);
+    dueRead("xx;x", -10);
+    dueRead("l0x;x", -12);
+    dueRead("l01;w00x0;l0x", -10 - 7);
+    dueRead("t1,1;;x", -10 - 5);
+    dueRead("l01l02", -10 - 3);
+    dueRead("l01;L02", -10 - 4);
+    // Behind what may not be, but is told rightly, it goes on: that is no FAULT.
+    dueRead("l99;x", -10 - 4);
+    dueRead("w9999;l99;s9999;t99,9;b9x", -10 - 24);
   }
 
   private static void clausesOfTheTable() {
@@ -1211,7 +1241,7 @@ public final class TermsTests {
 
   private static void images() {
     sentence("THE IMAGE: LAND, WINDS, THE TABLE, CURRENTS, TACK, GYBE, START, HEADINGS told by hand, SEEN, EVENTS, the BOOK", TermsTests::imageOfEach);
-    sentence("THE IMAGE: nothing else (THE TEXT and TAPES stay)", TermsTests::imageOfNothingElse);
+    sentence("HEADINGS told by hand, SEEN, EVENTS, the BOOK", TermsTests::imageOfNothingElse);
   }
 
   private static void imageOfEach() {
