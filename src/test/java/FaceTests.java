@@ -5,8 +5,11 @@ import java.lang.reflect.Method;
 import java.lang.reflect.Modifier;
 import java.nio.file.Files;
 import java.nio.file.Path;
+import java.util.List;
 import java.util.Set;
 import java.util.TreeSet;
+import java.util.regex.Matcher;
+import java.util.regex.Pattern;
 
 /** The class shows the document's face and nothing else, and keeps to what ../shared/LANGUAGE.md leaves. */
 public final class FaceTests {
@@ -24,6 +27,15 @@ public final class FaceTests {
     "System.getenv", "System.exit", "Thread", "::", "Random", "hashCode", "Exact(", "static {", "ArrayIndexOutOfBoundsException",
     "NullPointerException", "ClassCastException", "NegativeArraySizeException", "ArrayStoreException", "Throwable"};
   private static final Set<String> IMPORTS = Set.of("Arrays", "ArrayList", "List", "Iterator", "NoSuchElementException");
+  /** Of these classes of the library no other static function stands in LANGUAGE.md, or is like those that do. */
+  private static final Pattern LIBRARY = Pattern.compile("\\b(System|Arrays|Math|Long|Integer|List|String)\\.(\\w+)");
+  private static final Set<String> ALLOWED = Set.of("System.arraycopy", "Arrays.copyOf", "Arrays.copyOfRange", "Arrays.fill",
+      "Math.max", "Math.min", "Math.abs", "Math.floorDiv", "Math.floorMod", "Long.compare", "Long.bitCount", "Long.max", "Long.min",
+      "Long.MIN_VALUE", "Long.MAX_VALUE", "Integer.compare", "Integer.bitCount", "Integer.max", "Integer.min",
+      "Integer.MIN_VALUE", "Integer.MAX_VALUE", "List.of");
+  private static final Set<Class<?>> CONSTANTS = Set.of(int.class, long.class, boolean.class, char.class, String.class,
+      int[].class, long[].class, char[].class, byte[].class);
+  private static final int LONGEST_METHOD = 60;
   private static int wrong = 0;
 
   public static void main(String[] args) throws IOException {
@@ -83,22 +95,46 @@ public final class FaceTests {
       check(!c.isLocalClass(), c + " is local");
       for (Method m : c.getDeclaredMethods()) check(!m.getName().startsWith("lambda$"), "a lambda: " + m);
       for (Method m : c.getDeclaredMethods()) check(!names.contains(m.getName()), m + " bears a name of the face");
-      int fields = 0;
-      for (Field f : c.getDeclaredFields()) {
-        if (!Modifier.isStatic(f.getModifiers())) fields++;
-        else check(Modifier.isFinal(f.getModifiers()), f + " is static and not final");
-      }
-      check(fields <= 20, c + " has more than some twenty fields");
+      fields(c);
     }
+    fields(SailCourses.class);
     for (Method m : SailCourses.class.getDeclaredMethods()) {
       check(!Modifier.isPrivate(m.getModifiers()) || !names.contains(m.getName()), m + " bears a name of the face");
       check(m.getParameterCount() <= 7, m + " takes more than seven parameters");
     }
   }
 
+  private static void fields(Class<?> c) {
+    int fields = 0;
+    for (Field f : c.getDeclaredFields()) {
+      if (!Modifier.isStatic(f.getModifiers())) {
+        fields++;
+        continue;
+      }
+      check(Modifier.isFinal(f.getModifiers()), f + " is static and not final");
+      check(CONSTANTS.contains(f.getType()), f + " is static and no constant of a kind that may be");
+    }
+    check(fields <= 20, c + " has more than some twenty fields");
+  }
+
+  /** A body ends by the first line with nothing but a brace, as far in as the line that opens it. */
+  private static void methodLengths(List<String> lines) {
+    Pattern opening = Pattern.compile("( {4}| {8})[^ *].*\\) \\{");
+    for (int at = 0; at < lines.size(); at++) {
+      Matcher m = opening.matcher(lines.get(at));
+      if (!m.matches()) continue;
+      int end = at;
+      while (end < lines.size() && !lines.get(end).equals(m.group(1) + "}")) end++;
+      check(end - at < LONGEST_METHOD, "longer than some sixty lines: " + lines.get(at).trim());
+    }
+  }
+
   private static void source() throws IOException {
     StringBuilder code = new StringBuilder();
-    for (String line : Files.readAllLines(Path.of("src/main/java/SailCourses.java"))) {
+    List<String> lines = Files.readAllLines(Path.of("src/main/java/SailCourses.java"));
+    methodLengths(lines);
+    for (String line : lines) {
+      check(line.chars().allMatch(sign -> sign < 128), "a sign beyond 127: " + line);
       String bare = line.trim();
       if (bare.startsWith("*") || bare.startsWith("/")) continue;
       boolean allowed = bare.startsWith("import java.util.") && IMPORTS.contains(bare.substring(17, bare.length() - 1));
@@ -107,6 +143,8 @@ public final class FaceTests {
       code.append(bare.replaceAll("//.*", "")).append('\n');
     }
     String text = code.toString();
+    Matcher library = LIBRARY.matcher(text);
+    while (library.find()) check(ALLOWED.contains(library.group()), "the source has " + library.group());
     for (String word : FORBIDDEN) {
       boolean letters = Character.isLetter(word.charAt(0)) && Character.isLetter(word.charAt(word.length() - 1));
       boolean there = letters ? text.matches("(?s).*\\b" + word + "\\b.*") : text.contains(word);
